@@ -7,6 +7,7 @@ public final class ChargesTest {
         charge();
         barredRefused();
         barredByAgeAndKin();
+        barredOnTheFirstDay();
         barredByFalse();
         barredByLost();
         swear();
@@ -95,6 +96,18 @@ public final class ChargesTest {
         Check.due("dead ahead of accused", x.barred(1, 1, 5, 5), 2);
         x.die(1);
         Check.due("dead accuser", x.barred(1, 1, 5, 5), 1);
+    }
+
+    private static void barredOnTheFirstDay() {
+        SwornCourt x = Check.under("from 0 age 1;");
+        Check.people(x, 2);
+        x.go(1);
+        x.person(1, 5, 0, NONE, NONE, 4);
+        x.charge(0, 0, 1, 0);
+        Check.due("born today", x.barred(2, 0, 1, 1), 1);
+        Check.due("born tomorrow", x.barred(2, 0, 0, 1), 1);
+        x.go(1);
+        Check.due("born a day ago", x.barred(2, 0, 2, 2), 0);
     }
 
     private static void barredByFalse() {

@@ -6,6 +6,7 @@ public final class LawTest {
         feed();
         read();
         readAnew();
+        bytesOfAnEarlierText();
         faultOne();
         faultTwo();
         faultThreeAndFour();
@@ -49,6 +50,8 @@ public final class LawTest {
         Check.due("fine", x.law(8, 3, 2), 9999);
         Check.due("figures", Check.read(x, "from 0000 need 0003 0099 half 0001 false 9999;"), 1);
         Check.due("K with four figures", x.law(0, 3, 0), 99);
+        Check.due("as much as can be said", Check.read(x, "from 0 kin 9999 lost 9999 age 9999 short 9999 oath 9999;"), 1);
+        for (int rule : new int[] {2, 6, 7, 9, 10}) Check.due("rule " + rule, x.law(rule, 0, 0), 9999);
         Check.due("twice in a part", Check.read(x, "from 0 oath 1 oath 2 short 3;"), 1);
         Check.due("the later one", x.law(10, 0, 0), 2);
         Check.due("the last day", Check.read(x, "from 9999 feud 0 lost 7;"), 1);
@@ -56,6 +59,7 @@ public final class LawTest {
         Check.due("on it", x.law(4, 0, 9999), 0);
         Check.due("eight parts", Check.read(x, "from 1;from 2;from 3;from 4;from 5;from 6;from 7;from 8 kin 7;"), 8);
         Check.due("the eighth", x.law(2, 0, 8), 7);
+        Check.due("ahead of the eighth", x.law(2, 0, 7), 2);
         Check.people(x, 2);
         x.charge(0, 0, 1, 0);
         Check.due("text ahead", Check.feed(x, "from 1;"), 7);
@@ -75,6 +79,25 @@ public final class LawTest {
         Check.due("kin said", x.law(2, 0, 20), 1);
     }
 
+    private static void bytesOfAnEarlierText() {
+        SwornCourt x = new SwornCourt();
+        Check.read(x, "from 12 kin 34;from 5678 kin 1;");
+        Check.due("no end", Check.read(x, "from 1"), -11);
+        Check.due("at its own length", x.fault(), 6);
+        Check.due("no end of a rule", Check.read(x, "from 1 kin 34"), -11);
+        Check.due("at its own length, too", x.fault(), 13);
+        Check.due("no figures of the earlier one", Check.read(x, "from 12 kin 3;from 56"), -11);
+        Check.due("nor its rules", x.fault(), 21);
+        String longest = "from 1" + " ".repeat(234);
+        Check.due("240 bytes without an end", Check.read(x, longest), -11);
+        Check.due("at 240", x.fault(), 240);
+        Check.due("240 bytes", Check.read(x, longest.substring(0, 239) + ";"), 1);
+        Check.due("240 bytes of figures", Check.read(x, "from 1 kin" + "7".repeat(230)), -12);
+        Check.due("at the first", x.fault(), 10);
+        Check.due("240 letters", Check.read(x, "k".repeat(240)), -11);
+        Check.due("many rules", Check.read(x, "from1" + "kin2".repeat(58) + ";"), 1);
+    }
+
     private static void faultOne() {
         Check.fault("", 1, 0);
         Check.fault("   ", 1, 3);
@@ -82,6 +105,10 @@ public final class LawTest {
         Check.fault(" fro 1;", 1, 1);
         Check.fault("fromm 1;", 1, 0);
         Check.fault("From 1;", 1, 0);
+        Check.fault("grom 1;", 1, 0);
+        Check.fault("fromz 1;", 1, 0);
+        Check.fault("froma 1;", 1, 0);
+        Check.fault("from 1 beed 0 1;", 1, 7);
         Check.fault("fromA 1;", 1, 4);
         Check.fault("from;", 1, 4);
         Check.fault("from", 1, 4);

@@ -7,6 +7,7 @@ public final class ListsTest {
         ring();
         ringOfTwo();
         firstRing();
+        ringWithoutTheFirst();
         left();
         leftByDay();
         forsaken();
@@ -106,6 +107,18 @@ public final class ListsTest {
         row(x, 1, 7, 0);
     }
 
+    private static void ringWithoutTheFirst() {
+        SwornCourt x = Check.under("from 0 need 0 9;");
+        Check.people(x, 5);
+        stand(x, 2, 1, 4);
+        stand(x, 1, 0, 4);
+        Check.due("0 stood for nobody", x.ring(0, NONE), 0);
+        Check.due("1 leads on to 0 alone", x.ring(1, NONE), 0);
+        stand(x, 1, 2, 4);
+        row(x, 1, 2);
+        row(x, 2, 1);
+    }
+
     private static void left() {
         SwornCourt x = Check.under("from 0 need 0 3 kin 1 count 1 4;");
         x.person(-9000, 0, 0, NONE, NONE, 1); // 0
@@ -158,6 +171,7 @@ public final class ListsTest {
         x.die(3);
         Check.due("parent and child", x.forsaken(0, 0, 5), 3);
         Check.due("a kind that needs less", x.forsaken(0, 1, 5), 0);
+        Check.due("a kind that needs more", x.forsaken(0, 2, 5), 7 | 1 << 4);
         Check.due("the dead are not", x.forsaken(1, 0, 5), 0);
         Check.due("the day ahead", x.forsaken(0, 0, 4), 0);
         x.die(2);

@@ -22,6 +22,11 @@ public final class PersonsTest {
         for (int what = 0; what <= 10; what++) Check.due("new count(" + what + ")", x.count(what), 0);
         int[] rules = {12, 1, 2, 0, 1, 0, 0, 0, 10, 0, 0};
         for (int rule = 0; rule <= 10; rule++) Check.due("new law " + rule, x.law(rule, 0, 0), rules[rule]);
+        for (int k = 1; k <= 3; k++) {
+            Check.due("new need " + k, x.law(0, k, 0), 12);
+            Check.due("new count " + k, x.law(1, k, 0), 1);
+            Check.due("new fine " + k, x.law(8, k, 0), 10);
+        }
         Check.due("new fault", x.fault(), NONE);
         Check.due("new bound", x.bound(100), 1000);
         Check.due("new read", x.read(), -11);

@@ -13,6 +13,7 @@ public final class SessionsTest {
         spent();
         spentOnTheWay();
         needNothing();
+        theFirstPersonHelps();
         lacks();
         Check.end();
     }
@@ -227,6 +228,25 @@ public final class SessionsTest {
         Check.due("nobody is needed", x.called(1, 0), 0);
         Check.due("met", x.swear(2, 0), 1);
         Check.due("decided", x.count(6), 1);
+    }
+
+    private static void theFirstPersonHelps() {
+        SwornCourt x = Check.under("from 0 need 0 1;");
+        for (int p = 0; p < 3; p++) x.person(0, p, 0, -1, -1, 1);
+        for (int c = 0; c < 3; c++) x.charge(0, 1, 2, 0);
+        // one CHARGE after the other, or none: 1 for each
+        finding(x, 7, 1, 1, 3, 0);
+        Check.due("0 is called", x.called(7, 0), 1);
+        Check.due("0 is in sight", x.lacks(2), 0);
+        x.swear(0, 1);
+        finding(x, 5, 0, 0, 0, 0);
+        Check.due("0 swore for another one, but is not barred", x.lacks(2), 0);
+        x.go(1);
+        finding(x, 5, 1, 1, 2, 0);
+        x = Check.under("from 0 need 0 1;");
+        for (int p = 0; p < 3; p++) x.person(0, p, 0, -1, -1, 2);
+        for (int c = 0; c < 3; c++) x.charge(0, 1, 2, 0);
+        finding(x, 7, 2, 2, 6, 0);
     }
 
     private static void lacks() {
