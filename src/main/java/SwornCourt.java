@@ -859,6 +859,7 @@ public final class SwornCourt {
             }
         }
 
+        /** DEATHS and FEUDS hold for the whole day of the oath, though they be told behind it. */
         private void workOath(int o) {
             int c = docket.oathFor[o];
             int day = docket.oathOn[o];
