@@ -1,10 +1,18 @@
+import java.io.IOException;
+import java.nio.file.Files;
+import java.nio.file.Path;
+
 /** Counts the answers that are not as due, and tells them. */
 final class Check {
     static final int NONE = SwornCourt.NONE, UNKNOWN = SwornCourt.UNKNOWN, OUTSIDE = SwornCourt.OUTSIDE;
     static final int NOT = SwornCourt.NOT, FULL = SwornCourt.FULL;
 
+    private static final Path DOCUMENT = Path.of("../shared/DOC.md");
+
     private static int wrong = 0;
     private static int asked = 0;
+    private static String document = null;
+    private static String sentence = "";
 
     private Check() {
     }
@@ -13,7 +21,24 @@ final class Check {
         asked++;
         if (got == want) return;
         wrong++;
-        System.out.println(call + " answered " + got + ", due is " + want);
+        System.out.println(sentence + call + " answered " + got + ", due is " + want);
+    }
+
+    /** The answers that come now are held against these words, which must stand in the document. */
+    static void edge(String words) {
+        sentence = "";
+        if (document == null) document = readDocument();
+        due("the document says '" + words + "'", document.isEmpty() || document.contains(words) ? 1 : 0, 1);
+        sentence = "'" + words + "': ";
+    }
+
+    /** Nothing, where the document is not at hand: the tests hold without it. */
+    private static String readDocument() {
+        try {
+            return Files.exists(DOCUMENT) ? Files.readString(DOCUMENT).replaceAll("\\s+", " ") : "";
+        } catch (IOException e) {
+            return "";
+        }
     }
 
     /** Ends with exit code 1 if one answer was wrong. */
