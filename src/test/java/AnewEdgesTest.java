@@ -19,6 +19,7 @@ public final class AnewEdgesTest {
         openStaysOpen();
         metAnewEarlier();
         metAnewLater();
+        closedBehindMet();
         dayOrNone();
         lackAtLeast();
         knownFromItsTelling();
@@ -279,6 +280,22 @@ public final class AnewEdgesTest {
         stands(x, 0, MET, 5, 2, 0);
         Check.due("open by the day ahead", x.state(0, 4, 0), OPEN);
         Check.due("open by the day of the first two", x.state(0, 3, 0), OPEN);
+    }
+
+    private static void closedBehindMet() {
+        Check.edge("ANEW is all worked through as it came (oaths, closings");
+        SwornCourt x = court("from 0 need 0 2;", 6);
+        x.charge(0, 0, 1, 0);
+        x.swear(2, 0);
+        x.feud(0, 2);
+        x.swear(3, 0);
+        Check.due("closed, as it lacks one", x.close(0), 1);
+        stands(x, 0, LOST, 0, 1, 1);
+        x.peace(0, 2);
+        // it was not OPEN ANEW where it was closed
+        stands(x, 0, MET, 0, 2, 0);
+        x.feud(0, 2);
+        stands(x, 0, LOST, 0, 1, 1);
     }
 
     private static void dayOrNone() {

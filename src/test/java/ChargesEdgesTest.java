@@ -158,6 +158,14 @@ public final class ChargesEdgesTest {
         Check.due("9000 days ago, age 9000", x.barred(1, 1, 0, 2), 2);
         Check.due("9000 days ago, age 9001", x.barred(1, 2, 0, 2), 1);
         Check.due("9001 days ago, age 9001", x.barred(1, 2, 1, 2), 2);
+        x = Check.under("from 0 age 1;");
+        strangers(x, 2);
+        x.go(1);
+        x.person(1, 2, 0, NONE, NONE, 4); // 2
+        x.charge(0, 0, 1, 0);
+        x.go(1);
+        Check.due("age 1, today", x.barred(2, 0, 1, 2), 1);
+        Check.due("age 1, a day ago", x.barred(2, 0, 2, 2), 0);
     }
 
     private static void accusedOrAccuser() {
@@ -378,6 +386,7 @@ public final class ChargesEdgesTest {
             Check.due("lost on " + day, x.barred(4, 2, day, 10), 0);
         }
         Check.due("born today", x.barred(6, 2, 10, 10), 0);
+        Check.due("born tomorrow", x.barred(6, 2, 9, 10), 0);
     }
 
     private static void wheneverTold() {
@@ -603,12 +612,14 @@ public final class ChargesEdgesTest {
         SwornCourt x = new SwornCourt();
         Check.due("none at all", x.oath(0, 0), NONE);
         strangers(x, 3);
-        x.charge(0, 0, 1, 0);
-        x.swear(2, 0);
+        x.go(7);
+        for (int c = 0; c < 4; c++) x.charge(0, 0, 1, 0);
+        x.swear(2, 3);
         for (int i : new int[] {-1, 1, 99, 100, MIN, MAX}) {
             for (int what = 0; what <= 3; what++) Check.due("oath " + i, x.oath(i, what), NONE);
         }
         for (int what : new int[] {-1, 4, MIN, MAX}) Check.due("what " + what, x.oath(0, what), OUTSIDE);
-        Check.due("oath 0", x.oath(0, 3), 1);
+        int[] wanted = {2, 3, 7, 1};
+        for (int what = 0; what <= 3; what++) Check.due("oath 0, " + what, x.oath(0, what), wanted[what]);
     }
 }

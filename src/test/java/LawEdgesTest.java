@@ -268,7 +268,14 @@ public final class LawEdgesTest {
         Check.fault("from 1 from 2;", 1, 7);
         Check.fault("from 1; lost 3;", 1, 8);
         Check.fault("from 1 need 1 need 2;", 1, 14);
+        for (String word : new String[] {"grom", "fron", "froma", "fromz", "afrom", "zfrom"}) {
+            Check.fault(word + " 1;", 1, 0);
+            Check.fault("from 1; " + word + " 2;", 1, 8);
+        }
         for (String rule : PLAIN) {
+            Check.fault("from 1 " + rule + "a 1;", 1, 7);
+            Check.fault("from 1 " + rule + "z 1;", 1, 7);
+            Check.fault("from 1 z" + rule.substring(1) + " 1;", 1, 7);
             Check.fault("from 1 " + rule + "s 1;", 1, 7);
             Check.fault("from 1 x" + rule + " 1;", 1, 7);
             Check.fault("from 1 " + rule.substring(1) + " 1;", 1, 7);
@@ -359,6 +366,10 @@ public final class LawEdgesTest {
         Check.edge("4 a ninth part (at the first letter of its 'from')");
         sound(EIGHT, 8);
         sound(EIGHT + "   ", 8);
+        SwornCourt x = Check.under("from 1;from 2;from 3;from 4;from 5;from 6;from 7 kin 6;from 8 kin 7 oath 9;");
+        int[] kin = {2, 2, 2, 2, 2, 2, 2, 6, 7, 7};
+        for (int day = 0; day < 10; day++) Check.due("kin on " + day, x.law(2, 0, day), kin[day]);
+        Check.due("the last rule of the eighth", x.law(10, 0, 8), 9);
         Check.fault(EIGHT + "from 9;", 4, 56);
         Check.fault(EIGHT + "  from", 4, 58);
         Check.fault(EIGHT + ";", 1, 56);

@@ -19,6 +19,7 @@ public final class SessionsEdgesTest {
         withoutAnyOne();
         lackOfNone();
         willLessOaths();
+        willOfTheFirst();
         mostCharges();
         fewestCalls();
         theFirst();
@@ -290,6 +291,19 @@ public final class SessionsEdgesTest {
             x.go(1);
             Check.due("the next day", x.session(31, 0), will);
         }
+    }
+
+    private static void willOfTheFirst() {
+        Check.edge("no PERSON in more SETS than WILL less its oaths today");
+        SwornCourt x = Check.under("from 0 need 0 1;");
+        for (int p = 0; p < 3; p++) x.person(-9000, p, 0, NONE, NONE, 2);
+        for (int c = 0; c < 4; c++) x.charge(0, 1, 2, 0);
+        Check.due("0 is there for two", x.session(7, 0), 2);
+        Check.due("it helps", x.lacks(3), 0);
+        x.swear(0, 3);
+        Check.due("and then for one", x.session(7, 0), 1);
+        x.swear(0, 2);
+        Check.due("and then for none", x.session(3, 0), 0);
     }
 
     private static void mostCharges() {
