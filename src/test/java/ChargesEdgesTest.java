@@ -59,6 +59,9 @@ public final class ChargesEdgesTest {
         Check.due("the 20th", x.state(19, 0, 4), 3);
         Check.due("no 21st", x.state(20, 0, 4), UNKNOWN);
         Check.due("the 20th can be decided", x.close(19), 12);
+        Check.due("lost ones", x.count(7), 2);
+        Check.due("turned", x.turned(0, 0), 0);
+        Check.due("all but two are open", x.session(31 << 10, 0), 0);
     }
 
     private static void kinds() {

@@ -265,6 +265,12 @@ public final class PersonsEdgesTest {
         Check.due("makes no room", x.feud(6, 7), FULL);
         Check.due("nor for its own", x.feud(0, 1), FULL);
         Check.due("19 hold", x.count(2), 19);
+        Check.due("none of two that have none", x.peace(6, 7), NOT);
+        x.person(0, 6, 0, NONE, NONE, 1);
+        x.person(0, 5, 0, NONE, NONE, 1);
+        x.person(0, 7, 0, NONE, NONE, 1);
+        x.charge(0, 0, 1, 0);
+        Check.due("none between the houses 7 and 6", x.barred(2, 0, 0, 0), 0);
     }
 
     private static void unlikeHouses() {

@@ -298,7 +298,8 @@ public final class SessionsEdgesTest {
         SwornCourt x = Check.under("from 0 need 0 1;");
         for (int p = 0; p < 3; p++) x.person(-9000, p, 0, NONE, NONE, 2);
         for (int c = 0; c < 4; c++) x.charge(0, 1, 2, 0);
-        Check.due("0 is there for two", x.session(7, 0), 2);
+        // LOOKS: one for 0, two with one for 1, three for 2 (where both others have it, 0 has no oath left)
+        finding(x, 7, 2, 2, 6, 0);
         Check.due("it helps", x.lacks(3), 0);
         x.swear(0, 3);
         Check.due("and then for one", x.session(7, 0), 1);
@@ -460,6 +461,8 @@ public final class SessionsEdgesTest {
         charges(x, 2);
         finding(x, 3, 2, 4, 18, 0);
         finding(x, 3, 2, 4, 18, 0);
+        finding(x, 1, 1, 2, 6, 0);
+        finding(x, 2, 1, 2, 6, 0);
         Check.due("no oaths", x.count(9), 0);
         Check.due("open", x.count(5), 2);
         Check.due("2 may swear yet", x.swear(2, 1), 1);
